@@ -134,6 +134,10 @@ public final class PromiseTest {
         isErrorAt(2, "S60");
         isErrorAt(NONE, "S11");
         isErrorAt(NONE, "S99");
+        isErrorAt(1, "S:1");
+        isErrorAt(1, "S/1");
+        isErrorAt(2, "S1:");
+        isErrorAt(2, "S1/");
         isErrorAt(3, "S99S");
         isErrorAt(3, "S66 ");
         isErrorAt(3, "S66" + (char) 233);
@@ -159,6 +163,8 @@ public final class PromiseTest {
         isErrorAt(NONE, "S66g1g3");
         isErrorAt(4, "S66v");
         isErrorAt(4, "S66v-");
+        isErrorAt(4, "S66v:");
+        isErrorAt(4, "S66v/");
         isErrorAt(NONE, "S66v0v9");
         isErrorAt(4, "S66p");
         isErrorAt(4, "S66p2000");
@@ -228,6 +234,7 @@ public final class PromiseTest {
         is(2, x.letter(0, 4));
         is(1, x.letter(1, 3));
         is(1, x.letter(1, 4));
+        is(2, x.letter(0, 4));
         x.erase(3, 0, 0);
         is(0, x.letter(1, 3));
         is(0, x.letter(1, 4));
@@ -277,6 +284,8 @@ public final class PromiseTest {
         isPlaced(x, 5, 0, 4, 1);
         isPlaced(x, 5, 1, 4, 0);
         isPlaced(x, 1, 0, 5, NONE);
+        x.setMargin(0);
+        isPlaced(x, 1, 0, 3, 0);
         x.setMargin(3);
         isPlaced(x, 0, 0, 5, NONE);
         x.decide(4, 0, 1, 0);
@@ -286,6 +295,9 @@ public final class PromiseTest {
         x.decide(4, 0, 0, 1);
         isPlaced(x, 4, 0, 1, 1);
         isPlaced(x, 4, 1, 1, 0);
+        x.decide(4, 0, 1, 2);
+        isPlaced(x, 4, 0, 1, 1);
+        isPlaced(x, 4, 1, 2, 0);
         x.decide(2, 0, 0, 0);
         isPlaced(x, 2, 0, 1, 0);
         fails(BOUNDS, () -> x.mark(9, 0, 0, 0));
@@ -560,6 +572,11 @@ public final class PromiseTest {
         isLetter(x, 1, 3, 6, 1);
         is(0, x.mark(0, 0, 0, 0));
         is(3, x.mark(2, 1, 1, 0));
+        CrossedSheet oneLetter = loaded(CUT);
+        is(3, oneLetter.turn());
+        isWord("cd", oneLetter, 0, 0);
+        isWord("ab", oneLetter, 0, 1);
+        isWord("-", oneLetter, 0, 2);
         CrossedSheet wide = loaded("S91m80a02");
         wide.turn();
         is(1, wide.marks(0, 8));
@@ -707,6 +724,17 @@ public final class PromiseTest {
         is(0, near.bestPen(1));
         CrossedSheet later = loaded("S21v9m00a08p0081m10b08");
         is(10, later.bestPen(1));
+        // Seven from the letter 0, so that only the farthest pen is more than nine farther.
+        CrossedSheet farthest = loaded("S11p0070m00a00");
+        farthest.setMargin(9);
+        is(38, farthest.bestPen(1));
+        isLetter(farthest, 1, 3, 6, 1);
+        CrossedSheet allDoubtful = loaded("S99");
+        for (int mark = 0; mark < 162; mark++) {
+            allDoubtful.write(mark / 2 % 9, mark / 18, 0, 1, 5);
+        }
+        is(162, allDoubtful.about(3));
+        is(0, allDoubtful.bestPen(0));
     }
 
     private static void greatestMargin() {
@@ -748,6 +776,7 @@ public final class PromiseTest {
         is(NONE, x.bestDecision(1));
         x.decide(5, 5, 1, 0);
         is(NONE, x.bestDecision(0));
+        is(0, loaded("S22m00a15m11b15").bestDecision(0));
         fails(BOUNDS, () -> x.bestDecision(2));
         fails(BOUNDS, () -> x.bestDecision(-1));
     }
@@ -795,7 +824,7 @@ public final class PromiseTest {
         succeed(true, 70001, 70002, 70010);
         succeed(false, 70000, 70101, 71001);
         succeed(true, 80001, 80101, 81001, 81101);
-        succeed(false, 80000, 80002, 80011, 80201, 82001, 80901);
+        succeed(false, 80000, 80002, 80011, 80200, 80201, 82001, 80901);
         succeed(true, 90000, 90011, 91002, 93000, 93101);
         succeed(false, 90001, 90002, 91000, 91001, 92002, 90021, 90003, 94000, 90200, 90009);
         succeed(false, 0, 9999, 1);
@@ -806,6 +835,7 @@ public final class PromiseTest {
         CrossedSheet x = loaded(SCRIPTED);
         is(NONE, x.runScript(2, 11000_70000L));
         is(1, x.runScript(2, 40009_70000L));
+        is(NONE, x.runScript(2, 40000_70000L));
         is(2, x.runScript(3, 11001_91001_91000L));
         is(NONE, x.runScript(3, 20000_90001_20000L));
         is(2, x.runScript(3, 20000_20000_20000L));

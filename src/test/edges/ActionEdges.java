@@ -19,8 +19,8 @@ final class ActionEdges {
     }
 
     private static void textSection() {
-        Checks.says("Terms", "Ahead of the calls `append`, `clearText`, `errorPosition`, `load` the interface says: ----"
-            + " text.");
+        Checks.says("Terms", "Ahead of the calls `append`, `clearText`, `errorPosition`, `load` the interface"
+            + " says: ---- text.");
         CrossedSheet x = Situations.used();
         x.append('v');
         x.errorPosition();
@@ -30,8 +30,8 @@ final class ActionEdges {
     }
 
     private static void section() {
-        Checks.says("Terms", "Ahead of the calls `write`, `erase`, `decide`, `setLetter`, `setMargin`, `setGap`, `turn`,"
-            + " `undo` the interface says: ---- actions.");
+        Checks.says("Terms", "Ahead of the calls `write`, `erase`, `decide`, `setLetter`, `setMargin`, `setGap`,"
+            + " `turn`, `undo` the interface says: ---- actions.");
         for (Checks.Call action : ACTIONS) {
             CrossedSheet x = Situations.used();
             action.on(x);
@@ -40,8 +40,8 @@ final class ActionEdges {
     }
 
     private static void state() {
-        Checks.says("Terms", "The methods in the section \"actions\" change the state, which consists of everything but the"
-            + " text and the save slots.");
+        Checks.says("Terms", "The methods in the section \"actions\" change the state, which consists of"
+            + " everything but the text and the save slots.");
         for (Checks.Call action : ACTIONS) {
             CrossedSheet x = Situations.used();
             action.on(x);
@@ -65,8 +65,8 @@ final class ActionEdges {
     }
 
     private static void isAction() {
-        Checks.says("Terms", "Each call of one of them that does not throw an exception is an action, also if nothing"
-            + " becomes different (undo is none).");
+        Checks.says("Terms", "Each call of one of them that does not throw an exception is an action, also if"
+            + " nothing becomes different (undo is none).");
         for (Checks.Call action : ACTIONS) {
             CrossedSheet x = Situations.used();
             action.on(x);
@@ -120,7 +120,8 @@ final class ActionEdges {
     }
 
     private static void atMost14() {
-        Checks.says("Terms", "At most 14 states are remembered; when one more is remembered, the oldest one is forgotten.");
+        Checks.says("Terms", "At most 14 states are remembered; when one more is remembered, the oldest one is"
+            + " forgotten.");
         for (int actions = 0; actions <= 60; actions++) {
             CrossedSheet x = new CrossedSheet();
             for (int i = 0; i < actions; i++) {
@@ -173,8 +174,8 @@ final class ActionEdges {
     }
 
     private static void outOfBounds() {
-        Checks.says("Terms", "IndexOutOfBoundsException means that a cell, a mark, a letter or a word does not exist, or that"
-            + " a save slot is not 0 or 1.");
+        Checks.says("Terms", "IndexOutOfBoundsException means that a cell, a mark, a letter or a word does not"
+            + " exist, or that a save slot is not 0 or 1.");
         CrossedSheet x = Situations.used();
         for (Checks.Call call : new Checks.Call[] {s -> s.marks(3, 0), s -> s.mark(1, 0, 2, 0), s -> s.letter(2, 0),
             s -> s.sign(0, 2, 0), s -> s.save(2), s -> s.restore(2), s -> s.save(-1), s -> s.restore(-1)}) {
@@ -204,20 +205,25 @@ final class ActionEdges {
     }
 
     private static void namedFirst() {
-        Checks.says("Terms", "If several exceptions apply to a call, the one that its description names first is thrown.");
+        Checks.says("Terms", "If several exceptions apply to a call, the one that its description names first is"
+            + " thrown.");
         Checks.fails(Checks.ARGUMENT, Situations.fullText(), s -> s.append(256));
         Checks.fails(Checks.ARGUMENT, Situations.fullText(), s -> s.append(-1));
         CrossedSheet x = Situations.used();
-        for (Checks.Call call : new Checks.Call[] {s -> s.letter(2, 5), s -> s.letter(-1, -1), s -> s.mark(3, 0, 0, 8),
-            s -> s.mark(1, 2, 0, -1), s -> s.mark(1, 0, 2, 8), s -> s.mark(0, 0, 0, 8), s -> s.sign(2, 0, -1),
-            s -> s.sign(0, 2, -1), s -> s.sign(1, -1, -1), s -> s.write(3, 0, 27, 0, 0), s -> s.write(0, 2, 0, 4, 0),
+        for (Checks.Call call : new Checks.Call[] {s -> s.letter(2, 5), s -> s.letter(-1, -1),
+            s -> s.mark(3, 0, 0, 8), s -> s.mark(1, 2, 0, -1), s -> s.mark(1, 0, 2, 8), s -> s.mark(0, 0, 0, 8),
+            s -> s.sign(2, 0, -1), s -> s.sign(0, 2, -1), s -> s.sign(1, -1, -1), s -> s.write(3, 0, 27, 0, 0), s -> s.write(0, 2, 0, 4, 0),
             s -> s.write(-1, 0, 0, 0, 9), s -> s.write(0, -1, -1, -1, -1), s -> s.decide(3, 0, 0, 3),
-            s -> s.decide(0, 2, 0, -1), s -> s.decide(1, 1, 1, 3), s -> s.decide(0, 0, 0, 3), s -> s.decide(2, 0, 1, 0),
-            s -> s.setLetter(2, 4, 0, 0), s -> s.setLetter(-1, 0, 9, 0), s -> s.setLetter(2, 0, 0, 2),
-            s -> s.find(2, 0, 0), s -> s.find(-1, 1, 27), s -> s.find(2, 9, -1), s -> s.count(2, 27),
+            s -> s.decide(0, 2, 0, -1), s -> s.decide(1, 1, 1, 3), s -> s.decide(0, 0, 0, 3),
+            s -> s.decide(2, 0, 1, 0), s -> s.setLetter(2, 4, 0, 0), s -> s.setLetter(-1, 0, 9, 0),
+            s -> s.setLetter(2, 0, 0, 2), s -> s.find(2, 0, 0), s -> s.find(-1, 1, 27), s -> s.find(2, 9, -1), s -> s.count(2, 27),
             s -> s.count(-1, -1), s -> s.wordsWith(2, 0), s -> s.wordsWith(-1, 4), s -> s.restore(2),
             s -> s.restore(-1)}) {
             Checks.fails(Checks.BOUNDS, x, call);
+        }
+        for (int k = 0; k < 2; k++) {
+            int letter = k;
+            Checks.refusedIn(() -> aloneDecided(letter), Checks.BOUNDS, s -> s.decide(0, 0, 1, letter));
         }
         for (Checks.Call call : new Checks.Call[] {s -> s.write(1, 0, 27, 0, 0), s -> s.write(1, 0, -1, 0, 0),
             s -> s.write(1, 0, 0, 4, 0), s -> s.write(1, 0, 0, -1, 0), s -> s.write(1, 0, 0, 0, 9),
@@ -420,7 +426,8 @@ final class ActionEdges {
             Checks.refused(Checks.ARGUMENT, x -> x.decide(1, 1, 0, k));
         }
         Checks.refused(Checks.ARGUMENT, x -> x.decide(1, 0, 0, Checks.NONE));
-        Checks.says("Promise 15", "Throws `IllegalStateException` if the other mark of the cell is decided for the letter k");
+        Checks.says("Promise 15", "Throws `IllegalStateException` if the other mark of the cell is decided for"
+            + " the letter k");
         Checks.refused(Checks.STATE, x -> x.decide(1, 0, 0, 0));
         for (int place = 0; place < 4; place++) {
             int i = place / 2;
@@ -440,6 +447,13 @@ final class ActionEdges {
     private static CrossedSheet pairDecided(int i, int k) {
         CrossedSheet x = Checks.loaded("S11m00a02m00b02");
         x.decide(0, 0, i, k);
+        return x;
+    }
+
+    /** A cell whose only mark is decided for the letter k. */
+    private static CrossedSheet aloneDecided(int k) {
+        CrossedSheet x = Checks.loaded("S11m00a02");
+        x.decide(0, 0, 0, k);
         return x;
     }
 
@@ -556,7 +570,8 @@ final class ActionEdges {
                 Checks.is(w, x.about(1));
             }
         }
-        Checks.says("Promise 19", "the marks of the cell (x, y) come to the cell (H - 1 - y, x) with the H before the turn,");
+        Checks.says("Promise 19", "the marks of the cell (x, y) come to the cell (H - 1 - y, x) with the H before"
+            + " the turn,");
         int[][] sizes = {{1, 1}, {9, 1}, {1, 9}, {9, 9}, {3, 2}, {2, 3}, {8, 5}};
         for (int[] size : sizes) {
             for (int cell = 0; cell < size[0] * size[1]; cell++) {

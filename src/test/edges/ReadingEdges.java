@@ -8,8 +8,8 @@ final class ReadingEdges {
     }
 
     private static void section() {
-        Checks.says("Terms", "Ahead of the calls `about`, `letter`, `marks`, `mark`, `wordLength`, `sign`, `wordAt` the"
-            + " interface says: ---- what there is.");
+        Checks.says("Terms", "Ahead of the calls `about`, `letter`, `marks`, `mark`, `wordLength`, `sign`,"
+            + " `wordAt` the interface says: ---- what there is.");
         for (int number = 0; number < 10; number++) {
             int what = number;
             Checks.changesNothing(x -> x.about(what));
@@ -23,7 +23,8 @@ final class ReadingEdges {
     }
 
     /** The numbers from 2 to 9, but for margin and gap. */
-    private static void isAbout(CrossedSheet x, int marks, int doubtful, int decided, int full, int first, int second) {
+    private static void isAbout(CrossedSheet x, int marks, int doubtful, int decided, int full, int first,
+        int second) {
         int[] due = {marks, doubtful, decided, x.about(5), x.about(6), full, first, second};
         for (int what = 2; what < 10; what++) {
             Checks.is(due[what - 2], x.about(what));
@@ -33,9 +34,9 @@ final class ReadingEdges {
     private static void about() {
         Checks.says("Promise 6", "Returns a number.");
         isAbout(Situations.used(), 6, 1, 1, 1, 3, 2);
-        Checks.says("Promise 6", "`what`: 0: W; 1: H; 2: the number of marks; 3: of doubtful marks; 4: of decided marks;"
-            + " 5: the margin; 6: the gap; 7: the number of cells with two marks; 8: of marks that belong to the letter"
-            + " 0; 9: of marks that belong to the letter 1");
+        Checks.says("Promise 6", "`what`: 0: W; 1: H; 2: the number of marks; 3: of doubtful marks; 4: of decided"
+            + " marks; 5: the margin; 6: the gap; 7: the number of cells with two marks; 8: of marks that belong"
+            + " to the letter 0; 9: of marks that belong to the letter 1");
         CrossedSheet x = Checks.loaded("S19v0g1");
         Checks.is(1, x.about(0));
         Checks.is(9, x.about(1));
@@ -62,6 +63,15 @@ final class ReadingEdges {
             oneLetter.write(cell % 9, cell / 9, 26, 3, 0);
         }
         isAbout(oneLetter, 81, 0, 0, 0, 0, 81);
+        for (String text : new String[] {"S91m80a02m80b36", "S19m08a02m08b36", "S99m88a02m88b36"}) {
+            CrossedSheet corner = Checks.loaded(text);
+            int cx = corner.about(0) - 1;
+            int cy = corner.about(1) - 1;
+            corner.decide(cx, cy, 1, 1);
+            isAbout(corner, 2, 0, 1, 1, 1, 1);
+            corner.decide(cx, cy, 0, 0);
+            isAbout(corner, 2, 0, 2, 1, 1, 1);
+        }
         Checks.says("Promise 6", "Returns that number.");
         CrossedSheet mixed = Checks.loaded("S34m00a02m00b36m10c15m11d14m21e36m22f02m22g02");
         isAbout(mixed, 7, 3, 0, 2, 2, 2);
@@ -93,8 +103,8 @@ final class ReadingEdges {
         Checks.says("Promise 7", "`k`: letter");
         Checks.is(381, Checks.pen(Checks.loaded("S11p0381p1000"), 0));
         Checks.is(0, Checks.pen(Checks.loaded("S11p0381p1000"), 1));
-        Checks.says("Promise 7", "`what`: 0: its ink; 1: its slant; 2: its way; 3: the number of its words; 4: the number"
-            + " of signs of its longest word (0 without words)");
+        Checks.says("Promise 7", "`what`: 0: its ink; 1: its slant; 2: its way; 3: the number of its words; 4:"
+            + " the number of signs of its longest word (0 without words)");
         for (int k = 0; k < 2; k++) {
             Checks.is(0, new CrossedSheet().letter(k, 3));
             Checks.is(0, new CrossedSheet().letter(k, 4));
@@ -181,9 +191,10 @@ final class ReadingEdges {
         Checks.is(6, Checks.loaded("S29m08g02").mark(0, 8, 0, 0));
         Checks.says("Promise 9", "`i`: mark");
         Checks.is(1, Checks.loaded("S11m00a02m00b02").mark(0, 0, 1, 0));
-        Checks.says("Promise 9", "`what`: 0: its sign; 1: its ink; 2: its slant; 3: the letter for which it is decided,"
-            + " NONE if for none; 4: the letter to which it belongs, NONE if it is doubtful; 5: the number, 1 to 5, of"
-            + " the rule that tells this; 6: its distance from the letter 0; 7: its distance from the letter 1");
+        Checks.says("Promise 9", "`what`: 0: its sign; 1: its ink; 2: its slant; 3: the letter for which it is"
+            + " decided, NONE if for none; 4: the letter to which it belongs, NONE if it is doubtful; 5: the"
+            + " number, 1 to 5, of the rule that tells this; 6: its distance from the letter 0; 7: its distance"
+            + " from the letter 1");
         CrossedSheet y = Checks.loaded("S11m00-38p0000p1380");
         int[] first = {26, 3, 8, Checks.NONE, 1, 3, 17, 0};
         int[] doubtful = {26, 3, 8, Checks.NONE, Checks.NONE, 5, 17, 17};
@@ -315,8 +326,8 @@ final class ReadingEdges {
         Checks.is(0, Checks.loaded("S92m80a02").wordAt(0, 8, 0));
         Checks.says("Promise 12", "`y`: row");
         Checks.is(0, Checks.loaded("S29m08a02").wordAt(0, 0, 8));
-        Checks.says("Promise 12", "Returns the word in which the mark is that belongs to the letter (also a hyphen that is"
-            + " left out); NONE if there is no such mark in this cell.");
+        Checks.says("Promise 12", "Returns the word in which the mark is that belongs to the letter (also a"
+            + " hyphen that is left out); NONE if there is no such mark in this cell.");
         CrossedSheet cut = WordEdges.drawn(1, 0, 2, "a...-", "-....", "?....", "b...c", "...X.");
         Checks.is("a b c", Checks.words(cut, 1));
         Checks.is(1, cut.wordAt(1, 4, 0));

@@ -26,12 +26,12 @@ final class SearchEdges {
     }
 
     private static void section() {
-        Checks.says("Terms", "Ahead of the calls `find`, `shared`, `count`, `bestPen`, `greatestMargin`, `bestDecision`,"
-            + " `wordsWith` the interface says: ---- what would be; these and all following methods up to the save slots"
-            + " change nothing.");
-        for (Checks.Call call : new Checks.Call[] {x -> x.find(0, 2, 2303), x -> x.find(1, 8, 0), CrossedSheet::shared,
-            x -> x.count(0, 26), x -> x.bestPen(0), x -> x.bestPen(1), CrossedSheet::greatestMargin,
-            x -> x.bestDecision(0), x -> x.bestDecision(1), x -> x.wordsWith(0, 3), x -> x.wordsWith(1, 2),
+        Checks.says("Terms", "Ahead of the calls `find`, `shared`, `count`, `bestPen`, `greatestMargin`,"
+            + " `bestDecision`, `wordsWith` the interface says: ---- what would be; these and all following"
+            + " methods up to the save slots change nothing.");
+        for (Checks.Call call : new Checks.Call[] {x -> x.find(0, 2, 2303), x -> x.find(1, 8, 0),
+            CrossedSheet::shared, x -> x.count(0, 26), x -> x.bestPen(0), x -> x.bestPen(1),
+            CrossedSheet::greatestMargin, x -> x.bestDecision(0), x -> x.bestDecision(1), x -> x.wordsWith(0, 3), x -> x.wordsWith(1, 2),
             x -> x.runScript(3, 10002_20100_50000L), x -> x.runScript(3, 30381_40009_10102L), x -> x.runScript(1, 0),
             x -> x.simulate(1, 99), x -> x.simulate(-7, 1)}) {
             Checks.changesNothing(call);
@@ -80,8 +80,8 @@ final class SearchEdges {
             Checks.is(Checks.NONE, nine.find(0, n, signs + 1));
             Checks.is(Checks.NONE, nine.find(0, n, signs - 1));
         }
-        Checks.says("Promise 21", "`signs`: the signs, two decimal digits each, those of the first one highest: a number of"
-            + " at most 2 * n digits (0 or more), each pair 00 to 26");
+        Checks.says("Promise 21", "`signs`: the signs, two decimal digits each, those of the first one highest: a"
+            + " number of at most 2 * n digits (0 or more), each pair 00 to 26");
         CrossedSheet low = WordEdges.drawn(0, 0, 1, "aaaaaaaab", "--------z");
         Checks.is(0, low.find(0, 8, 0));
         Checks.is(0, low.find(0, 1, 0));
@@ -92,7 +92,8 @@ final class SearchEdges {
         CrossedSheet ordered = WordEdges.drawn(0, 0, 1, "ab.ba");
         Checks.is(0, ordered.find(0, 2, 1));
         Checks.is(1, ordered.find(0, 2, 100));
-        Checks.says("Promise 21", "Returns the smallest number of a word that begins with these signs; NONE if there is none.");
+        Checks.says("Promise 21", "Returns the smallest number of a word that begins with these signs; NONE if"
+            + " there is none.");
         CrossedSheet alike = WordEdges.drawn(0, 0, 1, "b.ab.abc.", "abc.ab...");
         Checks.is("b ab abc abc ab", Checks.words(alike, 0));
         Checks.is(1, alike.find(0, 1, 0));
@@ -114,7 +115,8 @@ final class SearchEdges {
         for (int n : Checks.outside(1, 8)) {
             Checks.refused(Checks.ARGUMENT, x -> x.find(0, n, 0));
         }
-        for (long signs : new long[] {-1, -100, Long.MIN_VALUE, Long.MAX_VALUE, 27, 99, 100, 2600, 1L << 32, 1L << 62}) {
+        for (long signs : new long[] {-1, -100, Long.MIN_VALUE, Long.MAX_VALUE, 27, 99, 100, 2600, 1L << 32,
+            1L << 62}) {
             Checks.refused(Checks.ARGUMENT, x -> x.find(1, 1, signs));
         }
         long power = 1;
@@ -161,8 +163,8 @@ final class SearchEdges {
         Checks.says("Promise 22", "Counts the words that both letters have.");
         isShared(1, "ab cd", "xy cd");
         isShared(2, "ab cd", "cd ab");
-        Checks.says("Promise 22", "Returns how many words of the letter 0 have the same signs in the same order as some word"
-            + " of the letter 1 (each of them counts, also alike ones).");
+        Checks.says("Promise 22", "Returns how many words of the letter 0 have the same signs in the same order"
+            + " as some word of the letter 1 (each of them counts, also alike ones).");
         isShared(0, "", "");
         isShared(0, "a", "");
         isShared(0, "", "a");
@@ -198,8 +200,8 @@ final class SearchEdges {
             Checks.is(due, x.count(0, sign));
             Checks.is(0, new CrossedSheet().count(0, sign));
         }
-        Checks.says("Promise 23", "Returns how often it is in the words of the letter (hyphens that are left out do not"
-            + " count).");
+        Checks.says("Promise 23", "Returns how often it is in the words of the letter (hyphens that are left out"
+            + " do not count).");
         String line = "---------";
         Checks.is(73, WordEdges.drawn(1, 0, 1, line, line, line, line, line, line, line, line, line).count(1, 26));
         String letters = "aaaaaaaaa";
@@ -251,15 +253,17 @@ final class SearchEdges {
         Checks.says("Promise 24", "`k`: letter");
         Checks.is(0, Checks.loaded("S11v9m00a00p0000p1380").bestPen(0));
         Checks.is(17, Checks.loaded("S11v9m00a00p0000p1380").bestPen(1));
-        Checks.says("Promise 24", "Returns 10 * ink + slant of the ink and slant of this letter, in place of those that it"
-            + " has, with which the fewest marks are doubtful, among several the smallest such number.");
+        Checks.says("Promise 24", "Returns 10 * ink + slant of the ink and slant of this letter, in place of"
+            + " those that it has, with which the fewest marks are doubtful, among several the smallest such"
+            + " number.");
         Checks.is(0, new CrossedSheet().bestPen(0));
         Checks.is(0, new CrossedSheet().bestPen(1));
     }
 
     /** A mark of the pen 00, and the letter 0 so far from it that only some pens of the letter 1 are told. */
     private static void bestPenEdges() {
-        Checks.says("Promise 24", "with which the fewest marks are doubtful, among several the smallest such number.");
+        Checks.says("Promise 24", "with which the fewest marks are doubtful, among several the smallest such"
+            + " number.");
         String mark = "S11v9m00a00";
         // The mark is at the letter 0, so the letter 1 has to be ten or more away: 17 is the first.
         Checks.is(17, Checks.loaded(mark + "p0000").bestPen(1));
@@ -300,8 +304,8 @@ final class SearchEdges {
             Checks.is(marginBySetting(sheet(text, false)), sheet(text, false).greatestMargin());
             Checks.is(marginBySetting(sheet(text, true)), sheet(text, true).greatestMargin());
         }
-        Checks.says("Promise 25", "Returns the greatest margin, 0 to 9, with which no mark is doubtful; NONE if there is"
-            + " none.");
+        Checks.says("Promise 25", "Returns the greatest margin, 0 to 9, with which no mark is doubtful; NONE if"
+            + " there is none.");
         int[] pens = {0, 1, 2, 3, 4, 5, 6, 7, 8, 15, 16, 17, 24, 25, 26, 33, 34, 35};
         for (int by = 0; by < pens.length; by++) {
             int due = by == 0 ? Checks.NONE : by > 10 ? 9 : by - 1;
@@ -359,7 +363,7 @@ final class SearchEdges {
             written.write(cell[0], cell[1], 0, 1, 5);
             Checks.is(100 * cell[0] + 10 * cell[1], written.bestDecision(0));
         }
-        for (String text : new String[] {"S91m80a15m00b02", "S19m08a15m00b02"}) {
+        for (String text : new String[] {"S91m80a15m00b02", "S19m00a15m08b02"}) {
             CrossedSheet turned = Checks.loaded(text);
             turned.turn();
             Checks.is(decisionByTrying(turned, 1), turned.bestDecision(1));
@@ -376,9 +380,9 @@ final class SearchEdges {
     }
 
     private static void bestDecisionEdges() {
-        Checks.says("Promise 26", "Returns 100 * x + 10 * y + i of the mark that is not decided, such that if it is decided for"
-            + " the letter k, the fewest marks are doubtful, among several the smallest such number; NONE if there is no"
-            + " mark that is not decided and can be decided for the letter k.");
+        Checks.says("Promise 26", "Returns 100 * x + 10 * y + i of the mark that is not decided, such that if it"
+            + " is decided for the letter k, the fewest marks are doubtful, among several the smallest such"
+            + " number; NONE if there is no mark that is not decided and can be decided for the letter k.");
         for (int k = 0; k < 2; k++) {
             Checks.is(Checks.NONE, new CrossedSheet().bestDecision(k));
             Checks.is(0, Checks.loaded("S11m00a02").bestDecision(k));

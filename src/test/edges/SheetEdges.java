@@ -10,8 +10,8 @@ final class SheetEdges {
     }
 
     private static void whatItIs() {
-        Checks.says("What it is", "A sheet that was written on twice: the marks of two letters cross each other, one"
-            + " written along the rows and one along the columns, or both ways as told.");
+        Checks.says("What it is", "A sheet that was written on twice: the marks of two letters cross each other,"
+            + " one written along the rows and one along the columns, or both ways as told.");
         for (int ways = 0; ways < 4; ways++) {
             CrossedSheet x = Checks.loaded("S22m00a02m10b02m01c02m11d02m00p36m10q36m01r36m11s36g1p002" + ways / 2
                 + "p136" + ways % 2);
@@ -21,8 +21,8 @@ final class SheetEdges {
     }
 
     private static void object() {
-        Checks.says("What it is", "An object is used for at most 512 calls after it has been made; what later calls"
-            + " answer is free.");
+        Checks.says("What it is", "An object is used for at most 512 calls after it has been made; what later"
+            + " calls answer is free.");
         CrossedSheet actions = new CrossedSheet();
         for (int i = 0; i < 497; i++) {
             actions.setMargin(i % 10);
@@ -120,8 +120,8 @@ final class SheetEdges {
     }
 
     private static void marksOfCell() {
-        Checks.says("Terms", "A cell has at most two marks, the first one with the number 0, the second one with the"
-            + " number 1.");
+        Checks.says("Terms", "A cell has at most two marks, the first one with the number 0, the second one with"
+            + " the number 1.");
         CrossedSheet x = Checks.loaded("S11");
         Checks.fails(Checks.BOUNDS, x, s -> s.mark(0, 0, 0, 0));
         Checks.is(0, x.write(0, 0, 7, 0, 2));
@@ -148,8 +148,8 @@ final class SheetEdges {
     }
 
     private static void markNumbers() {
-        Checks.says("Terms", "A mark has a sign from 0 to 26 (26 is a hyphen), an ink from 0 to 3 and a slant from 0"
-            + " to 8, and is decided for the letter 0, for the letter 1, or not (at first not).");
+        Checks.says("Terms", "A mark has a sign from 0 to 26 (26 is a hyphen), an ink from 0 to 3 and a slant"
+            + " from 0 to 8, and is decided for the letter 0, for the letter 1, or not (at first not).");
         CrossedSheet x = Checks.loaded("S93");
         for (int sign = 0; sign <= 26; sign++) {
             int cx = sign % 9;
@@ -200,8 +200,8 @@ final class SheetEdges {
     }
 
     private static void pens() {
-        Checks.says("Terms", "A letter has an ink from 0 to 3, a slant from 0 to 8, and a way: 0 along the rows, 1"
-            + " along the columns.");
+        Checks.says("Terms", "A letter has an ink from 0 to 3, a slant from 0 to 8, and a way: 0 along the rows,"
+            + " 1 along the columns.");
         for (int k = 0; k < 2; k++) {
             CrossedSheet x = new CrossedSheet();
             for (int pen = 0; pen < 72; pen++) {
@@ -219,8 +219,8 @@ final class SheetEdges {
     }
 
     private static void firstPens() {
-        Checks.says("Terms", "At first the letter 0 has the ink 0, the slant 2 and the way 0, and the letter 1 the"
-            + " ink 3, the slant 6 and the way 1.");
+        Checks.says("Terms", "At first the letter 0 has the ink 0, the slant 2 and the way 0, and the letter 1"
+            + " the ink 3, the slant 6 and the way 1.");
         int[][] due = {{0, 2, 0}, {3, 6, 1}};
         for (CrossedSheet x : new CrossedSheet[] {new CrossedSheet(), Checks.loaded("S66")}) {
             for (int k = 0; k < 2; k++) {
@@ -244,8 +244,8 @@ final class SheetEdges {
     }
 
     private static void distance() {
-        Checks.says("Terms", "The distance of a mark from a letter is 3 * |difference of their inks| + |difference"
-            + " of their slants|.");
+        Checks.says("Terms", "The distance of a mark from a letter is 3 * |difference of their inks| +"
+            + " |difference of their slants|.");
         for (int pen = 0; pen < 36; pen++) {
             CrossedSheet x = Checks.loaded("S66" + pens(pen, 35 - pen));
             for (int mark = 0; mark < 36; mark++) {
@@ -335,8 +335,8 @@ final class SheetEdges {
     }
 
     private static void ruleThree() {
-        Checks.says("Terms", "3: it is the only mark of its cell, and its distances from both letters differ by more"
-            + " than the margin: it belongs to the nearer letter.");
+        Checks.says("Terms", "3: it is the only mark of its cell, and its distances from both letters differ by"
+            + " more than the margin: it belongs to the nearer letter.");
         for (int margin = 0; margin <= 9; margin++) {
             for (int pen = 0; pen < 36; pen += 5) {
                 CrossedSheet x = Checks.loaded("S66v" + margin + pens(pen, 31));
@@ -365,10 +365,10 @@ final class SheetEdges {
     }
 
     private static void ruleFour() {
-        Checks.says("Terms", "4: its cell has another mark, and the sums (distance of the mark 0 from the letter 0) +"
-            + " (distance of the mark 1 from the letter 1) and (distance of the mark 0 from the letter 1) + (distance"
-            + " of the mark 1 from the letter 0) differ by more than the margin: both belong to the letters of the"
-            + " smaller sum.");
+        Checks.says("Terms", "4: its cell has another mark, and the sums (distance of the mark 0 from the letter"
+            + " 0) + (distance of the mark 1 from the letter 1) and (distance of the mark 0 from the letter 1) +"
+            + " (distance of the mark 1 from the letter 0) differ by more than the margin: both belong to the"
+            + " letters of the smaller sum.");
         for (int first = 0; first < 36; first++) {
             for (int margin = 0; margin <= 9; margin++) {
                 CrossedSheet x = Checks.loaded("S66v" + margin + pens(12, 31));

@@ -39,7 +39,8 @@ final class SlotEdges {
         Checks.is(second, Views.everything(twice));
         CrossedSheet x = Situations.used();
         x.save(1);
-        for (Views.View view : new Views.View[] {Views.ALL[0], Views.ALL[1], Views.ALL[2], Views.ALL[4], Views.ALL[5]}) {
+        for (Views.View view : new Views.View[] {Views.ALL[0], Views.ALL[1], Views.ALL[2], Views.ALL[4],
+            Views.ALL[5]}) {
             CrossedSheet y = Situations.used();
             y.save(1);
             Checks.is(view.of(Situations.used()), view.of(y));
@@ -75,7 +76,8 @@ final class SlotEdges {
     }
 
     private static void restore() {
-        Checks.says("Promise 31", "Replaces the state by the one in a save slot, and forgets all remembered states.");
+        Checks.says("Promise 31", "Replaces the state by the one in a save slot, and forgets all remembered"
+            + " states.");
         CrossedSheet x = Situations.used();
         x.restore(0);
         Checks.is("3x2 v3 g1 p20 p371 m00,0,0,2,-9 m01,26,0,2,-9 m10,1,0,2,-9 m10,23,3,6,-9 m11,24,1,5,-9"
@@ -138,7 +140,8 @@ final class SlotEdges {
             Checks.refused(Checks.BOUNDS, x -> x.restore(slot));
             Checks.refusedIn(Situations::bothSaved, Checks.BOUNDS, x -> x.restore(slot));
         }
-        Checks.says("Promise 31", "Throws `IllegalStateException` if nothing has been saved in it since the last load");
+        Checks.says("Promise 31", "Throws `IllegalStateException` if nothing has been saved in it since the last"
+            + " load");
         Checks.refused(Checks.STATE, x -> x.restore(1));
         Checks.refusedIn(Situations::nothingRemembered, Checks.STATE, x -> x.restore(0));
         for (int slot = 0; slot < 2; slot++) {

@@ -57,8 +57,8 @@ final class TextEdges {
     }
 
     private static void sheetText() {
-        Checks.says("Terms", "A sheet is the letter S, the digits W and H (1 to 9 each), and then any number of parts, in"
-            + " any order:");
+        Checks.says("Terms", "A sheet is the letter S, the digits W and H (1 to 9 each), and then any number of"
+            + " parts, in any order:");
         allows("", "S");
         allows("S", "123456789");
         allows("S6", "123456789");
@@ -75,9 +75,9 @@ final class TextEdges {
     }
 
     private static void markPart() {
-        Checks.says("Terms", "a mark: the letter m, the digits of the column and of the row of a cell that has fewer than"
-            + " two marks so far, its sign (a lower-case letter a to z for 0 to 25, or the character - for 26), the digit"
-            + " of its ink (0 to 3) and the digit of its slant (0 to 8);");
+        Checks.says("Terms", "a mark: the letter m, the digits of the column and of the row of a cell that has"
+            + " fewer than two marks so far, its sign (a lower-case letter a to z for 0 to 25, or the character -"
+            + " for 26), the digit of its ink (0 to 3) and the digit of its slant (0 to 8);");
         String digits = "012345678";
         for (int w = 1; w <= 9; w += 2) {
             for (int h = 1; h <= 9; h += 2) {
@@ -99,8 +99,8 @@ final class TextEdges {
 
     /** The cell has two marks, its column, and the sheet. */
     private static void markRoom() {
-        Checks.says("Terms", "(an m is not allowed if all cells have two marks, and a column is not allowed if all its"
-            + " cells have);");
+        Checks.says("Terms", "(an m is not allowed if all cells have two marks, and a column is not allowed if"
+            + " all its cells have);");
         allows("S11", PARTS);
         allows("S11m00a00", PARTS);
         allows("S11m00a00m", "0");
@@ -150,8 +150,8 @@ final class TextEdges {
     }
 
     private static void letterPart() {
-        Checks.says("Terms", "the letter p, the digit of a letter (0 or 1), and the digits of its ink (0 to 3), its slant"
-            + " (0 to 8) and its way (0 or 1).");
+        Checks.says("Terms", "the letter p, the digit of a letter (0 or 1), and the digits of its ink (0 to 3),"
+            + " its slant (0 to 8) and its way (0 or 1).");
         allows("S66p", "01");
         for (int k = 0; k < 2; k++) {
             allows("S66p" + k, "0123");
@@ -191,8 +191,8 @@ final class TextEdges {
     }
 
     private static void errorIndex() {
-        Checks.says("Terms", "The error position is the index of the first character that these rules do not allow at its"
-            + " place");
+        Checks.says("Terms", "The error position is the index of the first character that these rules do not"
+            + " allow at its place");
         String text = Situations.TEXT;
         for (int i = 0; i < text.length(); i++) {
             Checks.is(i, errorOf(text.substring(0, i) + (char) 233 + text.substring(i + 1)));

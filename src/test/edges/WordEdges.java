@@ -50,9 +50,9 @@ final class WordEdges {
     }
 
     private static void lines() {
-        Checks.says("Terms", "A letter is read line by line: with the way 0, the lines are the rows, ascending, each"
-            + " with the columns ascending; with the way 1, the lines are the columns, ascending, each with the rows"
-            + " ascending.");
+        Checks.says("Terms", "A letter is read line by line: with the way 0, the lines are the rows, ascending,"
+            + " each with the columns ascending; with the way 1, the lines are the columns, ascending, each with"
+            + " the rows ascending.");
         isRead(1, "abc def", "abc", "def");
         isRead(1, "ab cd ef", "ab", "cd", "ef");
         isRead(1, "abcdefghi", "abcdefghi");
@@ -82,8 +82,8 @@ final class WordEdges {
     }
 
     private static void gaps() {
-        Checks.says("Terms", "In a line, two marks that follow each other belong to the same word if fewer than G cells"
-            + " without a mark of this letter lie between them; G is the gap, 1 to 3, at first 2.");
+        Checks.says("Terms", "In a line, two marks that follow each other belong to the same word if fewer than G"
+            + " cells without a mark of this letter lie between them; G is the gap, 1 to 3, at first 2.");
         for (int gap = 1; gap <= 3; gap++) {
             for (int between = 0; between <= 7; between++) {
                 for (String cell : new String[] {".", "X", "?", "*"}) {
@@ -106,9 +106,9 @@ final class WordEdges {
     }
 
     private static void cut() {
-        Checks.says("Terms", "A word that is the last one of its line, has the hyphen as its last sign, and is not the"
-            + " last word of the letter is cut: it goes on with the next word (the first one of a later line), this one"
-            + " hyphen being left out");
+        Checks.says("Terms", "A word that is the last one of its line, has the hyphen as its last sign, and is"
+            + " not the last word of the letter is cut: it goes on with the next word (the first one of a later"
+            + " line), this one hyphen being left out");
         isRead(2, "abc", "ab-", "c..");
         isRead(2, "abcd", "ab-....", "...cd..");
         isRead(2, "ac", "a-....", ".....c");
@@ -126,8 +126,8 @@ final class WordEdges {
 
     /** Each of the three conditions alone fails. */
     private static void notCut() {
-        Checks.says("Terms", "A word that is the last one of its line, has the hyphen as its last sign, and is not the"
-            + " last word of the letter is cut");
+        Checks.says("Terms", "A word that is the last one of its line, has the hyphen as its last sign, and is"
+            + " not the last word of the letter is cut");
         isRead(2, "a- b c", "a-..b", "c....");
         isRead(2, "- b c", "-..b", "c...");
         isRead(2, "az b", "az.", "b..");
@@ -145,8 +145,8 @@ final class WordEdges {
     }
 
     private static void again() {
-        Checks.says("Terms", "(again, if the part that was joined last is the last one of its own line, has the hyphen as"
-            + " its last sign, and is not the last word of the letter, too).");
+        Checks.says("Terms", "(again, if the part that was joined last is the last one of its own line, has the"
+            + " hyphen as its last sign, and is not the last word of the letter, too).");
         isRead(2, "abc", "a-", "b-", "c.");
         isRead(2, "abcdefghi", "a-", "b-", "c-", "d-", "e-", "f-", "g-", "h-", "i.");
         isRead(2, "ab- c d", "a-....", "b-...c", "d.....");
@@ -159,8 +159,8 @@ final class WordEdges {
     }
 
     private static void numbers() {
-        Checks.says("Terms", "Words are numbered from 0 as they are read; a cut word and those with which it goes on are"
-            + " one word.");
+        Checks.says("Terms", "Words are numbered from 0 as they are read; a cut word and those with which it goes"
+            + " on are one word.");
         for (int k = 0; k < 2; k++) {
             CrossedSheet x = drawn(k, 0, 2, "a...b-.", "c-.....", "d...e..", "f......");
             Checks.is("a bcd e f", Checks.words(x, k));
@@ -176,8 +176,8 @@ final class WordEdges {
     }
 
     private static void hyphensAlone() {
-        Checks.says("Terms", "A word has at least one sign, but one that consisted of a hyphen alone and goes on has only"
-            + " the signs of the next one.");
+        Checks.says("Terms", "A word has at least one sign, but one that consisted of a hyphen alone and goes on"
+            + " has only the signs of the next one.");
         isRead(2, "b", "-", "b");
         isRead(2, "b", "-", "-", "b");
         isRead(2, "-", "-", "-");
@@ -197,8 +197,8 @@ final class WordEdges {
     }
 
     private static void allMethods() {
-        Checks.says("Terms", "All methods go by these words, without the hyphens that are left out, unless they say"
-            + " otherwise.");
+        Checks.says("Terms", "All methods go by these words, without the hyphens that are left out, unless they"
+            + " say otherwise.");
         CrossedSheet x = drawn(0, 0, 2, "ab-..", "c-...", "-d-..", ".....", "z....");
         x.write(4, 4, 25, 3, 6);
         Checks.is("abc-dz", Checks.words(x, 0));

@@ -212,11 +212,13 @@ final class ActionEdges {
         CrossedSheet x = Situations.used();
         for (Checks.Call call : new Checks.Call[] {s -> s.letter(2, 5), s -> s.letter(-1, -1),
             s -> s.mark(3, 0, 0, 8), s -> s.mark(1, 2, 0, -1), s -> s.mark(1, 0, 2, 8), s -> s.mark(0, 0, 0, 8),
-            s -> s.sign(2, 0, -1), s -> s.sign(0, 2, -1), s -> s.sign(1, -1, -1), s -> s.write(3, 0, 27, 0, 0), s -> s.write(0, 2, 0, 4, 0),
+            s -> s.sign(2, 0, -1), s -> s.sign(0, 2, -1), s -> s.sign(1, -1, -1), s -> s.write(3, 0, 27, 0, 0),
+            s -> s.write(0, 2, 0, 4, 0),
             s -> s.write(-1, 0, 0, 0, 9), s -> s.write(0, -1, -1, -1, -1), s -> s.decide(3, 0, 0, 3),
             s -> s.decide(0, 2, 0, -1), s -> s.decide(1, 1, 1, 3), s -> s.decide(0, 0, 0, 3),
             s -> s.decide(2, 0, 1, 0), s -> s.setLetter(2, 4, 0, 0), s -> s.setLetter(-1, 0, 9, 0),
-            s -> s.setLetter(2, 0, 0, 2), s -> s.find(2, 0, 0), s -> s.find(-1, 1, 27), s -> s.find(2, 9, -1), s -> s.count(2, 27),
+            s -> s.setLetter(2, 0, 0, 2), s -> s.find(2, 0, 0), s -> s.find(-1, 1, 27), s -> s.find(2, 9, -1),
+            s -> s.count(2, 27),
             s -> s.count(-1, -1), s -> s.wordsWith(2, 0), s -> s.wordsWith(-1, 4), s -> s.restore(2),
             s -> s.restore(-1)}) {
             Checks.fails(Checks.BOUNDS, x, call);

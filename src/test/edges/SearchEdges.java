@@ -31,7 +31,8 @@ final class SearchEdges {
             + " methods up to the save slots change nothing.");
         for (Checks.Call call : new Checks.Call[] {x -> x.find(0, 2, 2303), x -> x.find(1, 8, 0),
             CrossedSheet::shared, x -> x.count(0, 26), x -> x.bestPen(0), x -> x.bestPen(1),
-            CrossedSheet::greatestMargin, x -> x.bestDecision(0), x -> x.bestDecision(1), x -> x.wordsWith(0, 3), x -> x.wordsWith(1, 2),
+            CrossedSheet::greatestMargin, x -> x.bestDecision(0), x -> x.bestDecision(1),
+            x -> x.wordsWith(0, 3), x -> x.wordsWith(1, 2),
             x -> x.runScript(3, 10002_20100_50000L), x -> x.runScript(3, 30381_40009_10102L), x -> x.runScript(1, 0),
             x -> x.simulate(1, 99), x -> x.simulate(-7, 1)}) {
             Checks.changesNothing(call);

@@ -234,6 +234,10 @@ public final class LanguageTest {
         }
         long made = bean.getCurrentThreadAllocatedBytes() - before;
         check(made < 4096, "500 calls made " + made + " bytes of objects");
+        before = bean.getCurrentThreadAllocatedBytes();
+        CrossedSheet another = new CrossedSheet();
+        made = bean.getCurrentThreadAllocatedBytes() - before;
+        check(another.about(2) == 0 && made < 100_000, "a new object takes " + made + " bytes");
     }
 
     public static void main(String[] args) throws IOException, URISyntaxException {

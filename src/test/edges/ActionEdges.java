@@ -589,6 +589,7 @@ final class ActionEdges {
                 Checks.is(0, x.mark(size[1] - 1 - cy, cx, 1, 3));
             }
         }
+        turnFull();
         Checks.says("Promise 19", "each slant of a mark and of a letter becomes 8 - slant,");
         for (int slant = 0; slant <= 8; slant++) {
             CrossedSheet x = Checks.loaded("S11p03" + slant + "0p11" + (8 - slant) + "0m00a2" + slant + "m00b1"
@@ -609,6 +610,19 @@ final class ActionEdges {
             round.turn();
         }
         Checks.is(Views.everything(Situations.used()), Views.everything(round));
+    }
+
+    /** All cells of the largest sheet have two marks, so that no mark comes to a place that nobody looks at. */
+    private static void turnFull() {
+        CrossedSheet x = Checks.loaded("S99");
+        for (int mark = 0; mark < 162; mark++) {
+            x.write(mark / 18, mark / 2 % 9, mark % 27, mark / 27 % 4, 0);
+        }
+        x.turn();
+        for (int mark = 0; mark < 162; mark++) {
+            Checks.is(mark % 27, x.mark(8 - mark / 2 % 9, mark / 18, mark % 2, 0));
+            Checks.is(mark / 27 % 4, x.mark(8 - mark / 2 % 9, mark / 18, mark % 2, 1));
+        }
     }
 
     private static void turnReturns() {
